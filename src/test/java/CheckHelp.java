@@ -1,0 +1,76 @@
+/** Counts the answers that are not due, and ends a test. */
+final class CheckHelp {
+    private final String test;
+    private String part = "";
+    private int wrong = 0;
+
+    CheckHelp(String test) {
+        this.test = test;
+    }
+
+    void part(String name) {
+        part = name;
+    }
+
+    void due(String call, int got, int want) {
+        if (got != want) {
+            wrong++;
+            System.out.println(test + ", " + part + ": " + call + " answered " + got + ", due is " + want);
+        }
+    }
+
+    void yes(String call, boolean got) {
+        due(call, got ? 1 : 0, 1);
+    }
+
+    void no(String call, boolean got) {
+        due(call, got ? 1 : 0, 0);
+    }
+
+    /** What was looked at before must be the same now. */
+    void unchanged(String before, RingBridges x) {
+        if (!before.equals(look(x))) {
+            wrong++;
+            System.out.println(test + ", " + part + ": a refused call changed the state");
+        }
+    }
+
+    /** All that the looking methods answer. */
+    static String look(RingBridges x) {
+        StringBuilder all = new StringBuilder();
+        for (int r = 0; r < 3; r++) {
+            all.append(x.signal(r)).append(' ').append(x.at(r)).append(' ').append(x.monitor(r)).append(' ');
+            for (int what = 0; what < 3; what++) {
+                all.append(x.count(r, what)).append(' ');
+                for (int place = 0; place < 5; place++) {
+                    all.append(x.node(r, place, what)).append(' ');
+                }
+            }
+        }
+        for (int c = 0; c < 4; c++) {
+            for (int what = 0; what < 8; what++) {
+                all.append(x.connection(c, what)).append(' ');
+            }
+        }
+        for (int a = 1; a < 10; a++) {
+            for (int b = 1; b < 10; b++) {
+                all.append(x.route(a, b)).append(' ');
+            }
+        }
+        return all.append(x.tick(0)).toString();
+    }
+
+    void nodes(RingBridges x, int r, int... addresses) {
+        for (int place = 0; place < 5; place++) {
+            int want = place < addresses.length ? addresses[place] : -1;
+            due("node(" + r + ", " + place + ", 0)", x.node(r, place, 0), want);
+        }
+    }
+
+    void end() {
+        System.out.println(wrong == 0 ? "all answers are as due" : wrong + " answers are not as due");
+        if (wrong != 0) {
+            System.exit(1);
+        }
+    }
+}
