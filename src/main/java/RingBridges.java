@@ -51,6 +51,7 @@ public final class RingBridges {
     // Routes and paths are held as the document's route() answers them.
     private static final int UNKNOWN = -1;
     private static final int NO_BRIDGES = 0;
+    private static final int MOST_OF_ONE_BRIDGE = 3;
 
     private final Ring[] rings;
     private final Link[] links;
@@ -135,11 +136,10 @@ public final class RingBridges {
             return false;
         }
         Ring ring = ringHolding(a);
-        Node node = nodeHolding(a);
-        if (ring == null || node == null) {
+        if (ring == null) {
             return false;
         }
-        Frame frame = node.addFrame();
+        Frame frame = ring.addFrameAt(a);
         if (frame == null) {
             return false;
         }
@@ -548,7 +548,7 @@ public final class RingBridges {
     }
 
     private static boolean hasTwo(int path) {
-        return path > 3;
+        return path > MOST_OF_ONE_BRIDGE;
     }
 
     private static int withLast(int path, int port) {
@@ -557,7 +557,7 @@ public final class RingBridges {
     }
 
     private static int backwards(int path) {
-        return hasTwo(path) ? (path >> 2) + 4 * (path & 3) : path;
+        return path > MOST_OF_ONE_BRIDGE ? (path >> 2) + 4 * (path & 3) : path;
     }
 
     /** One ring with its nodes in the order of their places; rows behind the last place wait to be used. */
