@@ -1,5 +1,18 @@
 /** Counts the answers that are not due, and ends a test. */
 final class CheckHelp {
+    /** Makes an object and brings it, by the same calls each time, to the state that a test is about. */
+    interface Maker {
+        RingBridges make();
+    }
+
+    /** One call, a boolean answer counting 1 or 0. */
+    interface Call {
+        int answer(RingBridges x);
+    }
+
+    // QUIET shows after 6 ticks, the TIMER after 60, TRIES after 240: what a look does not show is shown later.
+    private static final int[] LATER = {0, 1, 2, 3, 4, 5, 6, 7, 9, 12, 20, 33, 59, 60, 61, 90, 130, 200};
+
     private final String test;
     private String part = "";
     private int wrong = 0;
@@ -25,6 +38,41 @@ final class CheckHelp {
 
     void no(String call, boolean got) {
         due(call, got ? 1 : 0, 0);
+    }
+
+    static int bit(boolean b) {
+        return b ? 1 : 0;
+    }
+
+    /**
+     * The call answers what is due, and its object goes on in every way like a twin that did not get the call: now and
+     * after more and more ticks. New twins are made for each, so that no object gets 512 calls.
+     */
+    void refused(String call, int due, Maker maker, Call refused) {
+        for (int ticks : LATER) {
+            RingBridges asked = maker.make();
+            RingBridges twin = maker.make();
+            due(call, refused.answer(asked), due);
+            asked.tick(ticks);
+            twin.tick(ticks);
+            if (!all(asked).equals(all(twin))) {
+                wrong++;
+                System.out.println(test + ", " + part + ": " + call + " changed something, seen " + ticks
+                        + " ticks later");
+                return;
+            }
+        }
+    }
+
+    /** What can be looked at, and the bytes that can be taken. */
+    private static String all(RingBridges x) {
+        StringBuilder all = new StringBuilder(look(x));
+        for (int c = 0; c < 4; c++) {
+            for (int i = 0; i < 5; i++) {
+                all.append(' ').append(x.take(c));
+            }
+        }
+        return all.toString();
     }
 
     /** What was looked at before must be the same now. */
