@@ -395,6 +395,51 @@ public final class ConnectionEdgeTests {
         take(x, 5, -1);
     }
 
+    private static void waitingWithNothingSent() {
+        CHECK.part("BUSY with SENT 0: WAITING, and the TIMER counts although nothing was sent");
+        RingBridges x = new RingBridges();
+        x.join(0, 2);
+        x.join(0, 1);
+        x.tick(10);
+        CHECK.due("open(2, 1, 0)", x.open(2, 1, 0), 0);
+        offer(x, 1, 2, 3, 4);
+        x.tick(40);
+        counts(x, 4, 0, 0, 4);
+        con(x, 5, 4);
+        offer(x, 5);
+        for (int i = 0; i < 9 && x.node(0, 1, 1) == 0; i++) {
+            x.tick(1);
+        }
+        // BUSY waits at b as long as there is SILENCE; the token would be damaged before b gets it.
+        waits(x, 1, 1);
+        x.tick(1);
+        x.damage(0);
+        silentTicks(x, 59 - x.connection(0, 7));
+        con(x, 7, 59);
+        fill(x, 2, 4);
+        silentTicks(x, 1);
+        con(x, 6, 1);
+        con(x, 2, 0);
+        con(x, 7, 0);
+        for (int i = 0; i < 20 && x.signal(0) != 1; i++) {
+            x.tick(1);
+        }
+        CHECK.due("at(0)", x.at(0), 1);
+        x.tick(2);
+        counts(x, 4, 0, 1, 4);
+        con(x, 7, 101);
+        x.tick(58);
+        counts(x, 4, 0, 1, 4);
+        con(x, 7, 159);
+        con(x, 6, 1);
+        waits(x, 0, 0);
+        x.tick(1);
+        con(x, 7, 0);
+        con(x, 6, 2);
+        con(x, 2, 1);
+        waits(x, 0, 1);
+    }
+
     private static void answersDropped() {
         for (int waiting = 3; waiting <= 4; waiting++) {
             CHECK.part("READY is queued when 3 wait at b, dropped when 4 wait; the byte is accepted: " + waiting);
@@ -633,6 +678,23 @@ public final class ConnectionEdgeTests {
         }
     }
 
+    private static void otherKinds() {
+        CHECK.part("EXPLORE and REPLY between a and b do nothing to their connection");
+        RingBridges x = after(0);
+        offer(x, 1, 2, 3, 4, 5);
+        x.tick(33);
+        con(x, 7, 103);
+        for (int i = 1; i <= 5; i++) {
+            x.explore(1, 2);
+            x.tick(10);
+            con(x, 7, 103 + 10 * i);
+            counts(x, 4, 1, 1, 4);
+            con(x, 5, 4);
+        }
+        CHECK.due("route(1, 2)", x.route(1, 2), 0);
+        CHECK.due("count(0, 1)", x.count(0, 1), 10 + 10);
+    }
+
     private static void freeStaysFree() {
         CHECK.part("4 OPEN connections of a station that goes are FAILED, FREE ones stay FREE, FAILED ones FAILED");
         RingBridges x = after(0);
@@ -721,12 +783,14 @@ public final class ConnectionEdgeTests {
         againAcknowledges();
         busyAcknowledges();
         tooFar();
+        waitingWithNothingSent();
         answersDropped();
         takeWithQueue();
         timer();
         failed();
         failedFrames();
         fourTries();
+        otherKinds();
         freeStaysFree();
         reopened();
         CHECK.end();

@@ -53,6 +53,33 @@ public final class FaceTests {
         check.due("constructor's parameters", makers[0].getParameterCount(), 0);
     }
 
+    /** What reflection can tell of the rules 1, 2, 5 and 11 of LANGUAGE.md. */
+    private static void rules(CheckHelp check) {
+        check.part("LANGUAGE.md");
+        Class<?>[] inside = RingBridges.class.getDeclaredClasses();
+        check.yes("at most twelve classes", inside.length + 1 <= 12);
+        shape(check, RingBridges.class);
+        for (Class<?> c : inside) {
+            check.yes(c.getName() + " static", Modifier.isStatic(c.getModifiers()));
+            check.no(c.getName() + " public", Modifier.isPublic(c.getModifiers()));
+            check.no(c.getName() + " protected", Modifier.isProtected(c.getModifiers()));
+            shape(check, c);
+        }
+    }
+
+    private static void shape(CheckHelp check, Class<?> c) {
+        int fields = 0;
+        for (Field f : c.getDeclaredFields()) {
+            boolean constant = Modifier.isStatic(f.getModifiers());
+            check.yes(f + " final", !constant || Modifier.isFinal(f.getModifiers()));
+            fields += constant ? 0 : 1;
+        }
+        check.yes(c.getName() + " has at most twenty fields", fields <= 20);
+        for (Method m : c.getDeclaredMethods()) {
+            check.yes(m + " has at most seven parameters", m.getParameterCount() <= 7);
+        }
+    }
+
     private static RingBridges busyObject() {
         RingBridges x = new RingBridges();
         x.join(0, 1);
@@ -116,6 +143,7 @@ public final class FaceTests {
     public static void main(String[] args) {
         CheckHelp check = new CheckHelp("FaceTests");
         face(check);
+        rules(check);
         oddNumbers(check);
         check.end();
     }

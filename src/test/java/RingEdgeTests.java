@@ -542,6 +542,26 @@ public final class RingEdgeTests {
         due(w, 2, 2, 0);
     }
 
+    private static void lastCall() {
+        CHECK.part("an object is good for 512 calls: ticks are counted, and openings are told apart up to the last one");
+        RingBridges x = ringOf(0, 1, 2);
+        for (int call = 3; call <= 512; call++) {
+            CHECK.due("tick(200), call " + call, x.tick(200), 200 * (call - 2));
+        }
+        RingBridges y = ringOf(0, 1, 2);
+        y.tick(11);
+        for (int call = 4; call <= 508; call += 4) {
+            CHECK.due("open(1, 2, 0)", y.open(1, 2, 0), 0);
+            CHECK.yes("offer", y.offer(0, 200));
+            y.tick(1);
+            CHECK.yes("close(0)", y.close(0));
+        }
+        CHECK.due("open(1, 2, 0)", y.open(1, 2, 0), 0);
+        y.tick(100);
+        CHECK.due("take(0)", y.take(0), -1);
+        CHECK.due("connection(0, 4)", y.connection(0, 4), 0);
+    }
+
     private static void damageEdges() {
         CHECK.part("5 CLAIM, PURGE, TOKEN become SILENCE; a FRAME stays one and is BAD, also twice");
         RingBridges x = ringOf(2, 6, 7);
@@ -586,6 +606,7 @@ public final class RingEdgeTests {
         stackLeft();
         lookEdges();
         ticks();
+        lastCall();
         damageEdges();
         CHECK.end();
     }
