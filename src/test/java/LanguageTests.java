@@ -92,6 +92,9 @@ public final class LanguageTests {
             int last = i + 1;
             Set<String> called = calls.computeIfAbsent(name, n -> new TreeSet<>());
             while (last < lines.length && !lines[last].equals(end)) {
+                // Own classes have capital letters, and only their constructors do.
+                boolean makes = Pattern.compile("\\bnew\\b").matcher(lines[last]).find();
+                check.yes(name + " makes nothing", !makes || Character.isUpperCase(name.charAt(0)));
                 Matcher call = CALL.matcher(lines[last]);
                 while (call.find()) {
                     called.add(call.group(1));
