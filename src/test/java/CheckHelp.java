@@ -13,12 +13,31 @@ final class CheckHelp {
     // QUIET shows after 6 ticks, the TIMER after 60, TRIES after 240: what a look does not show is shown later.
     private static final int[] LATER = {0, 1, 2, 3, 4, 5, 6, 7, 9, 12, 20, 33, 59, 60, 61, 90, 130, 200};
 
+    // In milliseconds, far above the few seconds that the longest one takes.
+    private static final long LONGEST_TEST = 120_000;
+
     private final String test;
     private String part = "";
     private int wrong = 0;
 
     CheckHelp(String test) {
         this.test = test;
+        watch(test);
+    }
+
+    /** A program with a call that does not end must fail its tests, not hold them up for ever. */
+    static void watch(String test) {
+        Thread watch = new Thread(() -> {
+            try {
+                Thread.sleep(LONGEST_TEST);
+            } catch (InterruptedException e) {
+                return;
+            }
+            System.out.println(test + ": takes too long, some call does not end");
+            Runtime.getRuntime().halt(1);
+        });
+        watch.setDaemon(true);
+        watch.start();
     }
 
     void part(String name) {

@@ -750,9 +750,10 @@ public final class ConnectionEdgeTests {
         y.open(1, 2, 0);
         y.tick(30);
         waits(y, 0, 0);
-        while (y.at(0) != 0) {
+        for (int i = 0; i < 5 && y.at(0) != 0; i++) {
             y.tick(1);
         }
+        CHECK.due("at(0)", y.at(0), 0);
         offer(y, 4, 5, 6);
         y.tick(3);
         y.damage(0);

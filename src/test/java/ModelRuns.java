@@ -268,6 +268,7 @@ public final class ModelRuns {
     }
 
     public static void main(String[] args) {
+        CheckHelp.watch("ModelRuns");
         Map<String, Integer> met = new TreeMap<>();
         for (int run = 1; run <= RUNS && wrong < WRONG_LIMIT; run++) {
             seed = run * 7919L + 17;
